@@ -6,6 +6,7 @@ public final class CallsTest {
 
     public static void main(String[] args) {
         refusedCalls();
+        refusedStandsOfAnyParameter();
         untaughtCalls();
         answersForWhatIsGiven();
         sumsGoRound();
@@ -30,6 +31,7 @@ public final class CallsTest {
         x.method(0, 3, 2, 2, 5);
         x.method(0, 1, 0, 1, 128);
         x.method(0, 3, 0, 1, 128);
+        x.method(0, 0, 0, 1, 0);
         x.stand(0, -1);
         x.stand(0, 4);
         return x;
@@ -39,7 +41,7 @@ public final class CallsTest {
         RehearsalDesk x = desk();
         int[][] bad = {
             {2, 0, 0, 0, 0}, {-1, 0, 0, 0, 0}, {MIN, 0, 0, 0, 0}, {MAX, 0, 0, 0, 0},
-            {0, 5, 0, 0, 0}, {0, -1, 0, 0, 0}, {0, MIN, 0, 0, 0}, {0, MAX, 0, 0, 0},
+            {0, 6, 0, 0, 0}, {0, -1, 0, 0, 0}, {0, MIN, 0, 0, 0}, {0, MAX, 0, 0, 0},
             {0, 0, 0, 2, 0}, {0, 0, 0, -2, 0}, {0, 0, 0, MIN, 0}, {1, 2, 0, MAX, 0},
         };
         for (int[] c : bad) {
@@ -51,6 +53,23 @@ public final class CallsTest {
         x.call(0, 1, 2, 9, 2);
         CHECK.row("a refused one changes nothing", Check.recorded(x, 0), 0, 1, 1, 0, 1, 3, -1, 0, -1);
         CHECK.due("what is beyond the parameters does not matter", x.call(1, 3, 5, 99, MIN), 0);
+    }
+
+    private static void refusedStandsOfAnyParameter() {
+        RehearsalDesk x = new RehearsalDesk();
+        x.face(-1);
+        x.face(-1);
+        x.method(1, 3, 7, 0, 0);
+        x.method(1, 2, 1, 0, 0);
+        x.stand(1, -1);
+        CHECK.due("all are stands", x.call(0, 0, 0, 0, -1), 3);
+        CHECK.due("the first is none's number", x.call(0, 0, 1, 0, 0), BAD);
+        CHECK.due("the second is none's number", x.call(0, 0, 0, 1, 0), BAD);
+        CHECK.due("the third is none's number", x.call(0, 0, 0, 0, 1), BAD);
+        CHECK.due("only the first is a stand", x.call(0, 1, 0, 1, 1), 3);
+        CHECK.due("which is none's number", x.call(0, 1, -2, 1, 1), BAD);
+        CHECK.due("method -1 of a later face", x.call(0, -1, 0, 0, 0), BAD);
+        CHECK.due("recorded", x.count(3), 2);
     }
 
     private static void untaughtCalls() {
@@ -195,7 +214,9 @@ public final class CallsTest {
         CHECK.row("call 2", Check.recorded(x, 2), 1, 3, 9, 0, 0, 0, -1, 9, -1);
         CHECK.row("call 3", Check.recorded(x, 3), 0, 0, MIN, 0, MAX, 3, -1, 0, -1);
         CHECK.row("call 4", Check.recorded(x, 4), 1, 3, 300, 0, 0, 1, -1, 0, 7);
-        CHECK.due("recorded(5, 0)", x.recorded(5, 0), FAR_BAD);
+        x.call(1, 5, 6, 7, 8);
+        CHECK.row("call 5, without parameters", Check.recorded(x, 5), 1, 5, 0, 0, 0, 0, -1, 9, -1);
+        CHECK.due("recorded(6, 0)", x.recorded(6, 0), FAR_BAD);
         CHECK.due("recorded(-1, 0)", x.recorded(-1, 0), FAR_BAD);
         CHECK.due("recorded(0, 9)", x.recorded(0, 9), FAR_BAD);
         CHECK.due("recorded(0, -1)", x.recorded(0, -1), FAR_BAD);

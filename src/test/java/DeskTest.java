@@ -296,6 +296,8 @@ public final class DeskTest {
         retell(x, c(TRY, 4, 5), c(TRY, 6, 3), c(GO, 4), c(FAIL, 5), c(FAIL, 4), c(TELL, 6));
         CHECK.due("one that was not left takes", x.run(20), 0);
         CHECK.due("kind", x.desk(6), 5);
+        retell(x, c(TRY, 2, 60), c(IF, 0, 1, 5), c(TRY, 3, 60), c(LET, 1, 1), c(GO, 1), c(FAIL, 4));
+        CHECK.due("the later one is left where the earlier one was", x.run(20), 5);
     }
 
     private static void triesInTurns() {

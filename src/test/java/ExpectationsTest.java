@@ -16,6 +16,7 @@ public final class ExpectationsTest {
         numbers();
         wrongCalls();
         wrongsAreAtMostSixty();
+        allFiveHundredCalls();
         wrong();
         CHECK.end();
     }
@@ -52,6 +53,10 @@ public final class ExpectationsTest {
         x.call(1, 1, 0, 0, 0);
         CHECK.due("the last one is met", x.met(37), 1);
         CHECK.due("by its stand alone", x.met(39), 0);
+        CHECK.due("none of forty is wrong", x.verify(), 0);
+        x.call(1, 0, 0, -1, 0);
+        x.call(2, 0, 0, -1, 0);
+        CHECK.due("all that are met by one too many", x.verify(), 7 + 6);
     }
 
     private static void refusedConditions() {
@@ -171,6 +176,11 @@ public final class ExpectationsTest {
         x.order(2, 1);
         x.order(0, 2);
         CHECK.row("order by order", Check.wrongs(x, x.verify()), 3, 0, 1, 3, 1, 3, 3, 2, 0, 3, 3, 1, 3, 4, 3);
+        x.forget();
+        x.call(0, 0, 2, -1, 0);
+        CHECK.due("what was forgotten comes behind nothing", x.verify(), 0);
+        x.call(0, 1, 0, 0, 0);
+        CHECK.row("only the third behind the second", Check.wrongs(x, x.verify()), 3, 3, 0);
     }
 
     private static void meetingBoth() {
@@ -270,6 +280,23 @@ public final class ExpectationsTest {
         CHECK.due("120 wrongs", x.verify(), 60);
         CHECK.row("two of a call", new int[] {x.wrong(58, 0), x.wrong(58, 1), x.wrong(59, 0), x.wrong(59, 1)},
                 6, 28, 4, 29);
+    }
+
+    private static void allFiveHundredCalls() {
+        RehearsalDesk x = desk();
+        x.expect(0, 1, 0, 499);
+        x.expect(0, 0, 0, 9);
+        x.order(1, 0);
+        x.cue(2, 0, 0, 0);
+        x.cue(3, 0, 1, 0);
+        x.cue(4, 1, 0, 0);
+        x.run(999);
+        CHECK.due("499 calls", x.verify(), 0);
+        x.call(0, 0, 0, -1, 0);
+        CHECK.row("the last is behind", Check.wrongs(x, x.verify()), 3, 0, 0);
+        x.call(0, 1, 0, 0, 0);
+        CHECK.due("a lost one meets nothing", x.met(0), 499);
+        CHECK.due("nor is it wrong", x.verify(), 1);
     }
 
     private static void wrong() {

@@ -43,6 +43,8 @@ public final class RulesTest {
         CHECK.due("rule(0, -1)", x.rule(0, -1), BAD);
         CHECK.due("rule(3, 0)", x.rule(3, 0), BAD);
         CHECK.due("rule(-1, 0)", x.rule(-1, 0), BAD);
+        CHECK.due("rule(2, -1)", x.rule(2, -1), BAD);
+        CHECK.due("rule(2, 4)", x.rule(2, 4), BAD);
         CHECK.due("rule(MIN, MAX)", x.rule(MIN, MAX), BAD);
         CHECK.due("rule(0, MIN)", x.rule(0, MIN), BAD);
         CHECK.due("refused rules", x.count(2), 0);
