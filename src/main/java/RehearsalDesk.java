@@ -386,10 +386,6 @@ public final class RehearsalDesk {
             return takes(signature, i) && (standBits[signature] >> i & 1) == 1;
         }
 
-        boolean takesWhole(int signature, int i) {
-            return takes(signature, i) && (standBits[signature] >> i & 1) == 0;
-        }
-
         int gives(int signature) {
             return gives[signature];
         }
@@ -436,7 +432,7 @@ public final class RehearsalDesk {
         }
 
         boolean isOf(int stand, int ofFace) {
-            return has(stand) && (lineage[stand] >> ofFace & 1) == 1;
+            return (lineage[stand] >> ofFace & 1) == 1;
         }
 
         int thing(int stand) {
@@ -564,7 +560,7 @@ public final class RehearsalDesk {
                 case EQUAL: return value == lows[place];
                 case BETWEEN: return lows[place] <= value && value <= highs[place];
                 case NOT_EQUAL: return value != lows[place];
-                case OF_FACE: return cast.isOf(value, lows[place]);
+                case OF_FACE: return value != NONE && cast.isOf(value, lows[place]);
                 case NO_STAND: return value == NONE;
                 default: return true;
             }
@@ -721,6 +717,7 @@ public final class RehearsalDesk {
         final int[] now;
         final int[] levels = new int[LAMPS];
         private int signature = 0;
+        private int sumOfWholes = 0;
 
         Stage(Faces faces, Stands cast, Rules rules, Log log) {
             this.faces = faces;
@@ -732,6 +729,7 @@ public final class RehearsalDesk {
 
         void begin(int stand, int method, int itsSignature) {
             signature = itsSignature;
+            sumOfWholes = 0;
             now[STAND] = stand;
             now[METHOD] = method;
             for (int i = 0; i < PARAMETERS; i++) {
@@ -740,8 +738,12 @@ public final class RehearsalDesk {
         }
 
         void bring(int i, int value) {
-            if (faces.takes(signature, i)) {
-                now[CAME + i] = value;
+            if (!faces.takes(signature, i)) {
+                return;
+            }
+            now[CAME + i] = value;
+            if (!faces.takesStand(signature, i)) {
+                sumOfWholes += value;
             }
         }
 
@@ -765,7 +767,7 @@ public final class RehearsalDesk {
                 case Rules.WHOLE: giveWhole(v); break;
                 case Rules.OTHER_STAND: giveStand(v); break;
                 case Rules.FAILURE: failWith(v); break;
-                case Rules.SUM: giveWhole(v + sumOfWholes()); break;
+                case Rules.SUM: giveWhole(v + sumOfWholes); break;
                 case Rules.PARAMETER: giveParameter(v); break;
                 default: callThrough(); break;
             }
@@ -777,23 +779,13 @@ public final class RehearsalDesk {
                 now[HOW] = UNTAUGHT;
                 return;
             }
-            int level = levels[thing] + sumOfWholes();
+            int level = levels[thing] + sumOfWholes;
             if (level < 0 || level > BRIGHTEST) {
                 failWith(LEVEL_BEYOND);
                 return;
             }
             levels[thing] = level;
             giveWhole(level);
-        }
-
-        private int sumOfWholes() {
-            int sum = 0;
-            for (int i = 0; i < PARAMETERS; i++) {
-                if (faces.takesWhole(signature, i)) {
-                    sum += now[CAME + i];
-                }
-            }
-            return sum;
         }
 
         private void giveParameter(int i) {
