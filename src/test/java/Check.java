@@ -1,6 +1,9 @@
 /** Counts the answers that are not as due, prints each, and ends a test with its exit code. */
 final class Check {
+    static final int MIN = Integer.MIN_VALUE, MAX = Integer.MAX_VALUE;
+
     private final String name;
+    private String about = "";
     private int asked = 0;
     private int wrong = 0;
 
@@ -8,11 +11,20 @@ final class Check {
         this.name = name;
     }
 
+    /** What the checks from here on are about: it is printed with those that fail. */
+    void about(String what) {
+        about = what + ": ";
+    }
+
+    int asked() {
+        return asked;
+    }
+
     void due(String call, int got, int want) {
         asked++;
         if (got != want) {
             wrong++;
-            System.out.println(name + ": " + call + " answered " + got + ", due is " + want);
+            System.out.println(name + ": " + about + call + " answered " + got + ", due is " + want);
         }
     }
 
@@ -20,7 +32,7 @@ final class Check {
         asked++;
         if (!is) {
             wrong++;
-            System.out.println(name + ": not so: " + what);
+            System.out.println(name + ": " + about + "not so: " + what);
         }
     }
 
@@ -37,6 +49,11 @@ final class Check {
         if (wrong != 0) {
             System.exit(1);
         }
+    }
+
+    /** Numbers below and above a range, next to it and as far as can be. */
+    static int[] beyond(int from, int to) {
+        return new int[] {from - 1, from - 2, to + 1, to + 2, to + 32, MIN, MIN + 1, MAX - 1, MAX};
     }
 
     /** What came() tells of the latest call. */
@@ -84,5 +101,18 @@ final class Check {
             row[what] = x.count(what);
         }
         return row;
+    }
+
+    /** Tells a list of cues anew; numbers that a cue does not name are 0. */
+    void retell(RehearsalDesk x, int[]... cues) {
+        x.clear();
+        for (int i = 0; i < cues.length; i++) {
+            int[] c = java.util.Arrays.copyOf(cues[i], 4);
+            due("cue " + i, x.cue(c[0], c[1], c[2], c[3]), i);
+        }
+    }
+
+    static int[] c(int... cue) {
+        return cue;
     }
 }

@@ -1,0 +1,79 @@
+import java.io.IOException;
+import java.lang.reflect.Method;
+import java.nio.file.Files;
+import java.nio.file.Path;
+import java.util.BitSet;
+import java.util.LinkedHashMap;
+import java.util.List;
+import java.util.Map;
+import java.util.regex.Matcher;
+import java.util.regex.Pattern;
+
+/**
+ * No sentence of the document's terms and promises is without a test: the words that the tests of single sentences say
+ * stand in the document, and together they are all of its words.
+ */
+public final class DocumentTest {
+    private static final Path DOCUMENT = Path.of("../shared/DOC.md");
+    private static final List<Class<?>> TESTS = List.of(RefusalsTest.class, FacesEdgesTest.class, RulesEdgesTest.class,
+            CallsEdgesTest.class, ExpectationsEdgesTest.class, DeskEdgesTest.class);
+    private static final Check CHECK = new Check("DocumentTest");
+
+    public static void main(String[] args) throws IOException {
+        Map<String, String> parts = parts(Files.readString(DOCUMENT));
+        CHECK.due("parts: terms 0 to 4, promises 1 to 27", parts.size(), 5 + 27);
+        Map<String, BitSet> said = new LinkedHashMap<>();
+        parts.forEach((name, text) -> said.put(name, new BitSet(text.length())));
+        for (Class<?> tests : TESTS) {
+            for (Method test : Edges.testsOf(tests)) {
+                say(test.getAnnotation(Edges.Says.class), parts, said);
+            }
+        }
+        parts.forEach((name, text) -> CHECK.holds(name + " has a test for \"" + unsaid(text, said.get(name)) + "\"",
+                unsaid(text, said.get(name)).isBlank()));
+        CHECK.end();
+    }
+
+    private static void say(Edges.Says says, Map<String, String> parts, Map<String, BitSet> said) {
+        String text = parts.getOrDefault(says.in(), "");
+        int at = text.indexOf(says.words());
+        CHECK.holds("\"" + says.words() + "\" stands in " + says.in(), at >= 0);
+        CHECK.holds("\"" + says.words() + "\" stands there once", at == text.lastIndexOf(says.words()));
+        if (at >= 0) {
+            said.get(says.in()).set(at, at + says.words().length());
+        }
+    }
+
+    private static String unsaid(String text, BitSet said) {
+        StringBuilder rest = new StringBuilder();
+        for (int i = 0; i < text.length(); i++) {
+            rest.append(said.get(i) ? ' ' : text.charAt(i));
+        }
+        return rest.toString().strip();
+    }
+
+    /** The words of the terms, part by part, and of each promise behind its signature. */
+    private static Map<String, String> parts(String document) {
+        Map<String, String> parts = new LinkedHashMap<>();
+        String terms = between(document, "\n## Terms\n", "\nAhead of the calls").replace("```text", "").replace("```", "");
+        String[] pieces = terms.split("==== \\d ");
+        for (int i = 0; i < pieces.length; i++) {
+            parts.put("Terms " + i, onOneLine(pieces[i]));
+        }
+        Matcher promise = Pattern.compile("\n## (Promise \\d+): [^\n]*\n+`[^`]*`: ([^\n]*)").matcher(document);
+        while (promise.find()) {
+            parts.put(promise.group(1), onOneLine(promise.group(2)));
+        }
+        return parts;
+    }
+
+    private static String between(String text, String from, String to) {
+        int start = text.indexOf(from);
+        int end = text.indexOf(to, Math.max(start, 0));
+        return start < 0 || end < 0 ? "" : text.substring(start + from.length(), end);
+    }
+
+    private static String onOneLine(String text) {
+        return text.strip().replaceAll("\\s+", " ");
+    }
+}
