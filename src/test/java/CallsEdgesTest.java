@@ -1,4 +1,4 @@
-/** The sentences of part 2 of the terms about calls, and of promises 11 to 13, one test each. */
+/** The sentences of how an object is used, of part 2 of the terms about calls, and of promises 11 to 13, one test each. */
 public final class CallsEdgesTest {
     private static final int BAD = RehearsalDesk.BAD, FAR_BAD = -1001;
     private static final int HOLD = 2, CALL = 3, GO = 4;
@@ -34,9 +34,36 @@ public final class CallsEdgesTest {
         CHECK.due("lost", x.count(4), 0);
     }
 
+    // ---- what it is
+
+    @Edges.Says(in = "What it is",
+            words = "An object is used for at most 512 calls after it has been made; what later calls answer is free.")
+    static void callsOfAnObject() {
+        RehearsalDesk x = new RehearsalDesk();
+        x.face(-1);
+        x.method(0, 3, 0, 1, 0);
+        x.stand(0, -1);
+        x.rule(0, 0);
+        x.answer(0, 4, 0);
+        for (int i = 6; i <= 510; i++) {
+            CHECK.due("call " + i, x.call(0, 0, i, 0, 0), 0);
+        }
+        CHECK.due("call 511 of it", x.came(1), 510);
+        CHECK.due("call 512 of it", x.count(4), 5);
+        for (int i = 0; i < 2000; i++) {
+            x.call(0, 0, i, 0, 0);
+            x.rule(0, 0);
+            x.cue(i % 10, 1, 1, 1);
+            x.run(1000);
+            x.verify();
+        }
+        CHECK.holds("later ones end and do not throw", true);
+    }
+
     // ---- terms
 
-    @Edges.Says(in = "Terms 2", words = "A CALL of a METHOD of a STAND with what comes for PARAMETERS (a STAND or none for those):")
+    @Edges.Says(in = "Terms 2",
+            words = "A CALL of a METHOD of a STAND with what comes for PARAMETERS (a STAND or none for those):")
     static void whatComes() {
         RehearsalDesk x = desk();
         CHECK.due("stands and none", x.call(0, 3, 0, -1, 1), 3);
@@ -142,7 +169,8 @@ public final class CallsEdgesTest {
         CHECK.due("call 5 by answer 5, taught later", x.came(1), 25);
     }
 
-    @Edges.Says(in = "Terms 2", words = "Without a RULE it is THROUGH, if it WATCHES; else UNTAUGHT: it gives 0, or no STAND.")
+    @Edges.Says(in = "Terms 2",
+            words = "Without a RULE it is THROUGH, if it WATCHES; else UNTAUGHT: it gives 0, or no STAND.")
     static void withoutARule() {
         int[] nothing = {0, 0, -1};
         int[] level = {0, 10, -1};
@@ -159,7 +187,8 @@ public final class CallsEdgesTest {
         }
     }
 
-    @Edges.Says(in = "Terms 2", words = "What the METHOD GIVES counts: what is no WHOLE (STAND) for one that gives such is 0 (none);")
+    @Edges.Says(in = "Terms 2",
+            words = "What the METHOD GIVES counts: what is no WHOLE (STAND) for one that gives such is 0 (none);")
     static void whatIsGiven() {
         int[][] answers = {{0, 42}, {1, 1}, {1, -1}, {3, 100}, {4, 0}, {4, 1}};
         int[] wholes = {42, 0, 0, 111, 5, 0};

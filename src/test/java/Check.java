@@ -1,3 +1,5 @@
+import java.util.Arrays;
+
 /** Counts the answers that are not as due, prints each, and ends a test with its exit code. */
 final class Check {
     static final int MIN = Integer.MIN_VALUE, MAX = Integer.MAX_VALUE;
@@ -107,7 +109,7 @@ final class Check {
     void retell(RehearsalDesk x, int[]... cues) {
         x.clear();
         for (int i = 0; i < cues.length; i++) {
-            int[] c = java.util.Arrays.copyOf(cues[i], 4);
+            int[] c = Arrays.copyOf(cues[i], 4);
             due("cue " + i, x.cue(c[0], c[1], c[2], c[3]), i);
         }
     }

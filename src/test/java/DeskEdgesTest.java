@@ -238,13 +238,15 @@ public final class DeskEdgesTest {
         }
     }
 
-    @Edges.Says(in = "Terms 4", words = "8 SAME: WHOLE c becomes 1 if STANDS a, b are the same one (or both none), else 0.")
+    @Edges.Says(in = "Terms 4",
+            words = "8 SAME: WHOLE c becomes 1 if STANDS a, b are the same one (or both none), else 0.")
     static void sameIt() {
         int[] held = {1, 1, -1, -1};
         for (int a = 0; a <= 3; a++) {
             for (int b = 0; b <= 3; b++) {
                 int is = held[a] == held[b] ? 1 : 0;
-                CHECK.row("stands " + a + ", " + b, told(c(HOLD, 0, 1), c(HOLD, 1, 1), c(LET, 7, 9), c(SAME, a, b, 7), c(TELL, 7)), is);
+                CHECK.row("stands " + a + ", " + b,
+                        told(c(HOLD, 0, 1), c(HOLD, 1, 1), c(LET, 7, 9), c(SAME, a, b, 7), c(TELL, 7)), is);
             }
         }
         CHECK.row("two of them", told(c(HOLD, 0, 0), c(HOLD, 3, 1), c(LET, 0, 9), c(SAME, 0, 3, 0), c(TELL, 0)), 0);
@@ -271,7 +273,8 @@ public final class DeskEdgesTest {
         CHECK.due("the run goes on with what is not kept", x.desk(0), 3);
     }
 
-    @Edges.Says(in = "Terms 4", words = "A CALL of a STAND that is none FAILS with KIND 9, of a METHOD that its FACE has not with KIND 10.")
+    @Edges.Says(in = "Terms 4",
+            words = "A CALL of a STAND that is none FAILS with KIND 9, of a METHOD that its FACE has not with KIND 10.")
     static void callsOfNone() {
         CHECK.due("none at first", run(c(CALL, 3, 0)), 10);
         CHECK.due("none any more", run(c(HOLD, 0, 0), c(HOLD, 0, -1), c(CALL, 0, 0)), 10);
@@ -335,7 +338,8 @@ public final class DeskEdgesTest {
         CHECK.due("done", x.count(8), 1005);
     }
 
-    @Edges.Says(in = "Terms 4", words = "TRIES open in one another: the innermost that a CUE is in takes it, and is over then;")
+    @Edges.Says(in = "Terms 4",
+            words = "TRIES open in one another: the innermost that a CUE is in takes it, and is over then;")
     static void innermostTakes() {
         int[][] nested = {c(TRY, 9, 6), c(TRY, 9, 4), c(FAIL, 2), c(TELL, 0), c(TELL, 6), c(FAIL, 3), c(TELL, 6), c(FAIL, 4)};
         RehearsalDesk x = desk(nested);
@@ -358,6 +362,8 @@ public final class DeskEdgesTest {
                 run(c(TRY, 5, 60), c(TRY, 1, 6), c(GO, 4), c(FAIL, 1), c(GO, 3), c(FAIL, 2), c(FAIL, 3)), 0);
         CHECK.due("only the outer one is left, under the inner one",
                 run(c(HOLD, 0, 0), c(TRY, 2, 60), c(TRY, 5, 3), c(CALL, 0, 0), c(HOLD, 0, -1), c(FAIL, 1)), 10);
+        CHECK.due("the inner one is left ahead of its own first cue, inside what was the outer one",
+                run(c(HOLD, 0, 0), c(TRY, 3, 60), c(CALL, 0, 0), c(TRY, 4, 60), c(LET, 0, 0), c(HOLD, 0, -1), c(GO, 2)), 10);
         CHECK.due("taking leaves those that it goes on outside of",
                 run(c(TRY, 2, 60), c(TRY, 2, 4), c(FAIL, 1), c(FAIL, 2), c(GO, 2)), 2);
         CHECK.due("it goes on inside the outer one, which takes then",
@@ -645,7 +651,8 @@ public final class DeskEdgesTest {
 
     // ---- promise 24
 
-    @Edges.Says(in = "Promise 24", words = "A WHOLE of THE DESK (0 .. 7), a STAND's number (8 .. 11: STANDS 0 .. 3; -1), "
+    @Edges.Says(in = "Promise 24",
+            words = "A WHOLE of THE DESK (0 .. 7), a STAND's number (8 .. 11: STANDS 0 .. 3; -1), "
             + "as the latest RUN left it.")
     static void deskAnswers() {
         RehearsalDesk x = desk(c(LET, 0, MIN), c(LET, 7, MAX), c(HOLD, 0, 2), c(HOLD, 3, 0), c(FAIL, 1), c(LET, 0, 5));
@@ -746,6 +753,7 @@ public final class DeskEdgesTest {
         for (int i = 0; i < 80; i++) {
             x.rule(0, 1);
         }
+        x.on(0, 0, 6, 0, 0);
         x.on(0, 1, 6, 0, 0);
         x.on(79, 0, 6, 0, 0);
         x.on(79, 2, 6, 0, 0);
@@ -754,10 +762,10 @@ public final class DeskEdgesTest {
         x.answer(79, 0, 8);
         x.run(1000);
         CHECK.row("ahead of it", new int[] {x.count(3), x.count(4), x.count(9)}, 500, 166, 100);
-        CHECK.row("caught", new int[] {x.caught(0, 1), x.caught(79, 0), x.caught(79, 2)}, 0, 0, 0);
+        CHECK.row("caught", caught(x), 0, 0, 0, 0);
         x.forget();
         CHECK.row("behind it", new int[] {x.count(3), x.count(4), x.count(9)}, 0, 0, 0);
-        CHECK.row("nothing caught", new int[] {x.caught(0, 1), x.caught(79, 0), x.caught(79, 2)}, -1002, -1002, -1002);
+        CHECK.row("nothing caught", caught(x), -1002, -1002, -1002, -1002);
         CHECK.due("nothing recorded", x.recorded(0, 0), FAR_BAD);
         CHECK.due("nothing told", x.told(0), FAR_BAD);
         x.run(2);
@@ -765,7 +773,11 @@ public final class DeskEdgesTest {
         x.run(1000);
         x.run(1000);
         CHECK.row("as many again", new int[] {x.count(3), x.count(4), x.count(9)}, 500, 167, 100);
-        CHECK.due("caught again", x.caught(79, 0), 0);
+        CHECK.row("caught again by the one that takes them", caught(x), -1002, -1002, 0, 0);
+    }
+
+    private static int[] caught(RehearsalDesk x) {
+        return new int[] {x.caught(0, 0), x.caught(0, 1), x.caught(79, 0), x.caught(79, 2)};
     }
 
     @Edges.Says(in = "Promise 27", words = "each RULE's next CALL is its first;")

@@ -51,16 +51,8 @@ public final class DeskTest {
     }
 
     private static RehearsalDesk retell(RehearsalDesk x, int[]... cues) {
-        x.clear();
-        for (int i = 0; i < cues.length; i++) {
-            int[] c = cues[i];
-            CHECK.due("cue " + i, x.cue(c[0], at(c, 1), at(c, 2), at(c, 3)), i);
-        }
+        CHECK.retell(x, cues);
         return x;
-    }
-
-    private static int at(int[] row, int i) {
-        return i < row.length ? row[i] : 0;
     }
 
     private static int[] c(int... cue) {

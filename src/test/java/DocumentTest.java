@@ -21,7 +21,7 @@ public final class DocumentTest {
 
     public static void main(String[] args) throws IOException {
         Map<String, String> parts = parts(Files.readString(DOCUMENT));
-        CHECK.due("parts: terms 0 to 4, promises 1 to 27", parts.size(), 5 + 27);
+        CHECK.due("parts: what it is, terms 0 to 4, promises 1 to 27", parts.size(), 1 + 5 + 27);
         Map<String, BitSet> said = new LinkedHashMap<>();
         parts.forEach((name, text) -> said.put(name, new BitSet(text.length())));
         for (Class<?> tests : TESTS) {
@@ -52,9 +52,12 @@ public final class DocumentTest {
         return rest.toString().strip();
     }
 
-    /** The words of the terms, part by part, and of each promise behind its signature. */
+    /** The words of how an object is used, of the terms, part by part, and of each promise behind its signature. */
     private static Map<String, String> parts(String document) {
         Map<String, String> parts = new LinkedHashMap<>();
+        String whatItIs = between(document, "\n## What it is\n", "\n## The public face\n").strip();
+        // The first paragraph only names what the terms say again.
+        parts.put("What it is", onOneLine(whatItIs.substring(whatItIs.indexOf("\n\n") + 1)));
         String terms = between(document, "\n## Terms\n", "\nAhead of the calls").replace("```text", "").replace("```", "");
         String[] pieces = terms.split("==== \\d ");
         for (int i = 0; i < pieces.length; i++) {

@@ -12,7 +12,7 @@ final class Edges {
     @Retention(RetentionPolicy.RUNTIME)
     @Target(ElementType.METHOD)
     @interface Says {
-        /** The document's part: "Terms 0" (ahead of part 1) to "Terms 4", "Promise 1" to "Promise 27". */
+        /** "What it is", "Terms 0" (ahead of part 1) to "Terms 4", or "Promise 1" to "Promise 27". */
         String in();
 
         String words();

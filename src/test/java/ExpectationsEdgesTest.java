@@ -206,6 +206,12 @@ public final class ExpectationsEdgesTest {
         x.order(1, 0);
         CHECK.row("order by order", Check.wrongs(x, x.verify()), 3, 0, 1, 3, 1, 0);
         x.forget();
+        call(x, 9, 9, 1);
+        CHECK.due("none of the second any more", x.verify(), 0);
+        x.forget();
+        call(x, 2);
+        CHECK.due("none of the first any more", x.verify(), 0);
+        x.forget();
         x.with(1, 0, 0, 0, 0);
         call(x, 1);
         CHECK.due("a call that meets both is not behind itself", x.verify(), 0);
@@ -444,7 +450,8 @@ public final class ExpectationsEdgesTest {
 
     // ---- promise 20
 
-    @Edges.Says(in = "Promise 20", words = "Of WRONG i, as found latest: 0 which (1 .. 6), 1 the EXPECTATION, the ORDER, the CALL, "
+    @Edges.Says(in = "Promise 20",
+            words = "Of WRONG i, as found latest: 0 which (1 .. 6), 1 the EXPECTATION, the ORDER, the CALL, "
             + "2 how many (1, 2), the CALL (3), else 0.")
     static void wrongAnswers() {
         RehearsalDesk x = desk();

@@ -203,7 +203,11 @@ public final class RandomRunsTest {
         }
     }
 
+    // What an object answers behind its last promised call is free, and so it is not asked.
     private boolean both(String name, int... n) {
+        if (calls.size() >= CALLS) {
+            return true;
+        }
         int got = ask(name, n);
         int due = model.does(name, n);
         calls.add(name + Arrays.toString(n) + " = " + due);

@@ -2,6 +2,7 @@ import java.util.ArrayList;
 import java.util.Arrays;
 import java.util.List;
 import java.util.function.Consumer;
+import java.util.function.Function;
 import java.util.function.ToIntFunction;
 
 /** The sentences ahead of part 1 of the terms: which refusal is answered, and that it changes nothing. */
@@ -53,9 +54,9 @@ public final class RefusalsTest {
         x.cue(3, 0, 0, 0);
         x.cue(9, 7, 0, 0);
         x.run(100);
+        x.verify();
         x.call(0, 0, 7, 1, 8);
         x.call(0, 1, 2, 0, 0);
-        x.verify();
         return x;
     }
 
@@ -72,7 +73,7 @@ public final class RefusalsTest {
     }
 
     private static void fullOfMethods(RehearsalDesk x) {
-        times(7, () -> x.method(2, 0, 0, 0, 0));
+        times(7, () -> x.method(2, 1, 0, 0, 0));
     }
 
     private static void fullOfStands(RehearsalDesk x) {
@@ -80,7 +81,9 @@ public final class RefusalsTest {
     }
 
     private static void fullOfRules(RehearsalDesk x) {
-        times(77, () -> x.rule(0, 0));
+        times(76, () -> x.rule(0, 0));
+        x.rule(1, 0);
+        x.answer(79, 0, 79);
     }
 
     private static void fullOfAnswers(RehearsalDesk x) {
@@ -101,27 +104,20 @@ public final class RefusalsTest {
 
     private static void wornOut(RehearsalDesk x) {
         x.cue(4, 1, 0, 0);
-        times(21, () -> x.run(1000));
+        times(20, () -> x.run(1000));
     }
 
     // ---- all that can be seen of a desk
 
-    /** All that an object tells, and then how it takes some calls of each kind: some 280 calls. */
-    private static int[] probe(RehearsalDesk x) {
+    /** What an object tells. */
+    private static int[] look(RehearsalDesk x) {
         List<Integer> seen = new ArrayList<>();
-        look(x, seen);
-        use(x, seen);
-        return seen.stream().mapToInt(Integer::intValue).toArray();
-    }
-
-    private static void add(List<Integer> seen, int... answers) {
-        Arrays.stream(answers).forEach(seen::add);
-    }
-
-    private static void look(RehearsalDesk x, List<Integer> seen) {
         add(seen, Check.counts(x));
+        for (int face = 0; face < 12; face++) {
+            add(seen, x.count(10 + face));
+        }
         for (int face = 0; face < 4; face++) {
-            add(seen, x.count(10 + face), x.of(0, face), x.of(1, face));
+            add(seen, x.of(0, face), x.of(1, face), x.of(23, face));
         }
         for (int thing = 0; thing < 6; thing++) {
             add(seen, x.level(thing));
@@ -133,27 +129,50 @@ public final class RefusalsTest {
         for (int i = 0; i < 3; i++) {
             add(seen, x.caught(0, i), x.caught(1, i), x.met(i));
         }
+        add(seen, x.met(39));
         add(seen, Check.wrongs(x, 5));
         add(seen, Check.desk(x));
         add(seen, x.told(0), x.told(1));
+        return row(seen);
     }
 
-    private static void use(RehearsalDesk x, List<Integer> seen) {
-        for (int[] c : new int[][] {{0, 0, 6}, {0, 0, 10}, {0, 1, 2}, {0, 2, 0}, {1, 0, 5}, {2, 1, 0}}) {
+    /** How an object does what it was told. */
+    private static int[] use(RehearsalDesk x) {
+        List<Integer> seen = new ArrayList<>();
+        for (int[] c : new int[][] {{0, 0, 6}, {0, 0, 10}, {0, 1, 2}, {0, 2, 0}, {1, 0, 5}, {2, 1, 0}, {23, 0, 1}}) {
             add(seen, x.call(c[0], c[1], c[2], -1, 3));
             add(seen, Check.came(x));
         }
+        for (int i = 0; i < 6; i++) {
+            add(seen, x.call(0, 0, 1, -1, 1), x.came(1));
+        }
         add(seen, x.verify());
         add(seen, Check.wrongs(x, 9));
-        add(seen, x.run(50));
+        add(seen, x.run(100));
         add(seen, Check.desk(x));
+        add(seen, Check.told(x));
+        add(seen, x.stand(2, 1), x.call(3, 7, 9, 9, 9), x.came(1), x.call(3, 0, 9, 9, 9), x.came(1));
+        add(seen, x.clear(), x.forget());
+        return row(seen);
+    }
+
+    /** How more is told to an object. */
+    private static int[] tellMore(RehearsalDesk x) {
+        List<Integer> seen = new ArrayList<>();
         add(seen, x.beside(0, true), x.beside(1, true), x.beside(2, true));
-        add(seen, x.answer(0, 0, 1), x.answer(1, 0, 1), x.answer(2, 0, 1));
-        add(seen, x.call(0, 0, 1, -1, 1), x.came(1), x.call(0, 2, 0, 0, 0), x.came(3));
+        add(seen, x.answer(0, 0, 1), x.answer(1, 0, 1), x.answer(2, 0, 1), x.call(0, 2, 0, 0, 0), x.came(3));
         add(seen, x.method(0, 0, 0, 0, 0), x.method(1, 0, 0, 0, 0), x.method(2, 0, 0, 0, 0), x.method(2, 0, 0, 0, 0));
         add(seen, x.face(2), x.stand(2, 1), x.rule(0, 0), x.expect(0, 0, 0, 0), x.order(2, 1), x.cue(9, 7, 0, 0));
-        add(seen, x.clear(), x.forget());
         add(seen, Check.counts(x));
+        return row(seen);
+    }
+
+    private static void add(List<Integer> seen, int... answers) {
+        Arrays.stream(answers).forEach(seen::add);
+    }
+
+    private static int[] row(List<Integer> seen) {
+        return seen.stream().mapToInt(Integer::intValue).toArray();
     }
 
     // ---- the refusals
@@ -244,11 +263,11 @@ public final class RefusalsTest {
         return List.of(
                 full("a thirteenth face", RefusalsTest::fullOfFaces, x -> x.face(-1)),
                 full("a thirteenth face below", RefusalsTest::fullOfFaces, x -> x.face(2)),
-                full("a ninth method", RefusalsTest::fullOfMethods, x -> x.method(2, 1, 0, 1, 0)),
+                full("a ninth method", RefusalsTest::fullOfMethods, x -> x.method(2, 3, 7, 2, 255)),
                 full("a twenty-fifth stand", RefusalsTest::fullOfStands, x -> x.stand(2, 0)),
                 full("an eighty-first rule", RefusalsTest::fullOfRules, x -> x.rule(0, 1)),
                 full("a seventh answer", RefusalsTest::fullOfAnswers, x -> x.answer(0, 2, 1)),
-                full("a forty-first expectation", RefusalsTest::fullOfExpectations, x -> x.expect(0, 0, 7, 8)),
+                full("a forty-first expectation", RefusalsTest::fullOfExpectations, x -> x.expect(1, 2, 7, 8)),
                 full("a forty-first order", RefusalsTest::fullOfOrders, x -> x.order(2, 1)),
                 full("a sixty-first cue", RefusalsTest::fullOfCues, x -> x.cue(7, 1, 1, 1)),
                 full("a run that may do no more", RefusalsTest::wornOut, x -> x.run(10)));
@@ -260,21 +279,26 @@ public final class RefusalsTest {
                 new Refused("method of a face with a stand", NOT, RefusalsTest::as, x -> x.method(1, 0, 0, 0, 0)));
     }
 
+    /** Two like objects, one of which refused something, are seen to be alike still. */
     private static void changesNothing(List<Refused> refusals) {
+        List<Function<RehearsalDesk, int[]>> sights = List.of(RefusalsTest::look, RefusalsTest::use, RefusalsTest::tellMore);
         for (Refused r : refusals) {
-            RehearsalDesk x = desk();
-            RehearsalDesk y = desk();
-            r.ahead.accept(x);
-            r.ahead.accept(y);
-            CHECK.due(r.name, r.call.applyAsInt(x), r.due);
-            CHECK.due(r.name + ", once more", r.call.applyAsInt(x), r.due);
-            CHECK.row("what is seen behind: " + r.name, probe(x), probe(y));
+            for (Function<RehearsalDesk, int[]> sight : sights) {
+                RehearsalDesk x = desk();
+                RehearsalDesk y = desk();
+                r.ahead.accept(x);
+                r.ahead.accept(y);
+                CHECK.due(r.name, r.call.applyAsInt(x), r.due);
+                CHECK.due(r.name + ", once more", r.call.applyAsInt(x), r.due);
+                CHECK.row("what is seen behind: " + r.name, sight.apply(x), sight.apply(y));
+            }
         }
     }
 
     // ---- the tests
 
-    @Edges.Says(in = "Terms 0", words = "BAD -1 (a number is not as told, or names nothing), NOT -2 (as told), FULL -3.")
+    @Edges.Says(in = "Terms 0",
+            words = "BAD -1 (a number is not as told, or names nothing), NOT -2 (as told), FULL -3.")
     static void refusalsAreNumbers() {
         CHECK.due("BAD", RehearsalDesk.BAD, -1);
         CHECK.due("NOT", RehearsalDesk.NOT, -2);
