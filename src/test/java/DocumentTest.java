@@ -1,17 +1,21 @@
 import java.io.IOException;
 import java.lang.reflect.Method;
+import java.lang.reflect.Modifier;
 import java.nio.file.Files;
 import java.nio.file.Path;
+import java.util.Arrays;
 import java.util.BitSet;
 import java.util.LinkedHashMap;
 import java.util.List;
 import java.util.Map;
+import java.util.Set;
+import java.util.TreeSet;
 import java.util.regex.Matcher;
 import java.util.regex.Pattern;
 
 /**
  * No sentence of the document's terms and promises is without a test: the words that the tests of single sentences say
- * stand in the document, and together they are all of its words.
+ * stand in the document, and together they are all of its words. And the class has the face that the document shows.
  */
 public final class DocumentTest {
     private static final Path DOCUMENT = Path.of("../shared/DOC.md");
@@ -20,7 +24,8 @@ public final class DocumentTest {
     private static final Check CHECK = new Check("DocumentTest");
 
     public static void main(String[] args) throws IOException {
-        Map<String, String> parts = parts(Files.readString(DOCUMENT));
+        String document = Files.readString(DOCUMENT);
+        Map<String, String> parts = parts(document);
         CHECK.due("parts: what it is, terms 0 to 4, promises 1 to 27", parts.size(), 1 + 5 + 27);
         Map<String, BitSet> said = new LinkedHashMap<>();
         parts.forEach((name, text) -> said.put(name, new BitSet(text.length())));
@@ -31,7 +36,25 @@ public final class DocumentTest {
         }
         parts.forEach((name, text) -> CHECK.holds(name + " has a test for \"" + unsaid(text, said.get(name)) + "\"",
                 unsaid(text, said.get(name)).isBlank()));
+        face(between(document, "\n## The public face\n", "\n## Terms\n"));
         CHECK.end();
+    }
+
+    private static void face(String shown) {
+        Set<String> due = new TreeSet<>();
+        Matcher call = Pattern.compile("public int (\\w+)\\(([^)]*)\\);").matcher(shown);
+        while (call.find()) {
+            due.add("int " + call.group(1) + "(" + call.group(2).replaceAll(" \\w+(,|$)", "$1").replace(", ", ",") + ")");
+        }
+        Set<String> has = new TreeSet<>();
+        for (Method method : RehearsalDesk.class.getDeclaredMethods()) {
+            if (Modifier.isPublic(method.getModifiers())) {
+                String types = String.join(",", Arrays.stream(method.getParameterTypes()).map(Class::getName).toList());
+                has.add(method.getReturnType() + " " + method.getName() + "(" + types + ")");
+            }
+        }
+        CHECK.due("calls of the face", due.size(), 26);
+        CHECK.holds("the document's calls " + due + " are the class's " + has, due.equals(has));
     }
 
     private static void say(Edges.Says says, Map<String, String> parts, Map<String, BitSet> said) {
